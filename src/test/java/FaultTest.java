@@ -14,6 +14,7 @@ public final class FaultTest {
         height();
         order();
         severalFunctions();
+        nothingIsLeftOfEarlierCode();
         theSectionStays();
         CHECK.end();
     }
@@ -126,7 +127,9 @@ public final class FaultTest {
         due(-500, 2, 1, 8);
         due(-500, 2, 0, 8);
         due(-500, 6, 8);
-        due(-502, 1, 1, 4, 1, 8);
+        for (int r = 0; r < 3; r++) {
+            due(-502, 1, r, 4, 1, 8);
+        }
         due(-502, 3, 3, 4, 4, 8);
         due(10, 3, 3, 4, 3, 8);
         due(-504, 1, 1, 1, 2, 2, 1, 8);
@@ -165,7 +168,9 @@ public final class FaultTest {
         due(-702, 12, 1, 13, 3, 1, 9, 2);
         due(-700, 3, 1, 10, 0, 4, 1, 8);
         // The heights are the same, the saved registers are not.
-        due(-708, 10, 6, 1, 1, 9, 8, 3, 1, 0, 2, 1, 8);
+        for (int r = 0; r < 3; r++) {
+            due(-708, 10, 6, 1, r, 9, 8, 3, 1, 0, 2, r, 8);
+        }
         // FP is known on one of two ways alone.
         due(-705, 1, 0, 10, 5, 5, 2, 0, 8);
         // Both where it goes on and where it goes something else is known: the former is told.
@@ -179,8 +184,9 @@ public final class FaultTest {
         due(-802, 3, 1, 14, 1, 1, 8);
         due(-802, 3, 1, 14, 1, 2, 8);
         due(-802, 3, 1, 14, 1, 255, 8);
-        due(-802, 1, 1, 14, 1, 0, 8);
-        due(-802, 1, 1, 14, 2, 0, 8);
+        for (int r = 0; r < 3; r++) {
+            due(-802, 1, r, 14, 1, 0, 8);
+        }
         due(-805, 3, 2, 14, 1, 1, 14, 2, 1, 8);
         due(-800, 15, 1, 0, 8);
         due(-802, 3, 1, 15, 1, 1, 8);
@@ -222,6 +228,21 @@ public final class FaultTest {
         x.function(1, 2);
         x.function(0, 1);
         CHECK.is("then the other one", x.pack(), -101);
+        CHECK.is("and again", x.pack(), -101);
+    }
+
+    private static void nothingIsLeftOfEarlierCode() {
+        ChainUnwinder x = Check.one(0);
+        CHECK.is("the end", x.pack(), -201);
+        CHECK.is("the end again", x.pack(), -201);
+        x.clear();
+        Check.put(x, 0, 0, 8);
+        x.function(0, 3);
+        CHECK.is("instructions begin at 1 and 2", x.pack(), 4);
+        x.clear();
+        Check.put(x, 9, 1, 8);
+        x.function(0, 3);
+        CHECK.is("but here not at 1", x.pack(), -300);
     }
 
     private static void theSectionStays() {

@@ -14,6 +14,7 @@ public final class RowTest {
         linksAndMissingBytes();
         advances();
         countsOfBytes();
+        countOfTheLastFunction();
         whichFunctionIsRead();
         CHECK.end();
     }
@@ -113,7 +114,9 @@ public final class RowTest {
         CHECK.is("four", Check.row(program(10, 10, 10, 10), 10, 1), 1);
         CHECK.is("five", Check.row(program(10, 10, 10, 10, 10), 10, 1), BAD);
         CHECK.is("five, one taken off", Check.row(program(10, 10, 10, 10, 11, 10), 10, 1), 1);
-        CHECK.is("each reading has its own pile", Check.row(x, 10, 1) + Check.row(x, 10, 1), 10);
+        ChainUnwinder full = program(10, 10, 10, 10);
+        CHECK.is("a full pile is left", Check.row(full, 10, 1), 1);
+        CHECK.is("but each reading has its own", Check.row(full, 10, 1), 1);
         CHECK.is("full behind the place", Check.row(program(66, 10, 10, 10, 10, 10), 10, 1), BAD);
     }
 
@@ -163,6 +166,7 @@ public final class RowTest {
         CHECK.is("packed", Check.sectionOf(x), 0, 8, 0, 6, 67, 14, 2, 66, 14, 1);
         x.poke(1, 9);
         CHECK.is("one more than there are", Check.row(x, 0, 0), BAD);
+        CHECK.is("when none has the place, too", Check.row(x, 6, 0), BAD);
         x.poke(1, 8);
         x.poke(0, 1);
         CHECK.is("the higher byte counts", Check.row(x, 0, 0), BAD);
@@ -178,6 +182,21 @@ public final class RowTest {
         x.poke(8, 0);
         CHECK.is("a single byte is left", Check.row(x, 6, 1), BAD);
         CHECK.is("but not before it", Check.row(x, 5, 1), 2);
+    }
+
+    private static void countOfTheLastFunction() {
+        ChainUnwinder x = new ChainUnwinder();
+        Check.put(x, 8, 8, 8);
+        x.function(0, 1);
+        x.function(1, 2);
+        CHECK.is("pack", x.pack(), 8);
+        int[] counts = {0, 1, 2, 3, 4, 8, 255};
+        for (int count : counts) {
+            x.poke(5, count);
+            CHECK.is("its count is " + count, Check.row(x, 1, 1), count == 2 ? 1 : BAD);
+            CHECK.is("no function, its count is " + count, Check.row(x, 2, 1), count == 2 ? NONE : BAD);
+            CHECK.is("the function before it", Check.row(x, 0, 1), 1);
+        }
     }
 
     private static void whichFunctionIsRead() {

@@ -95,9 +95,15 @@ public final class RunTest {
         CHECK.is("the first word", y.machine(4), 255);
         Check.steps(y, 2);
         CHECK.is("a word below SP stays", y.machine(4), 11);
-        y.begin(0, 0, 0, 0);
-        Check.steps(y, 5);
-        CHECK.is("a run begins with all other words 0", y.machine(4), 0);
+        int[] words = {0, 1, 20, 37, 38};
+        for (int word : words) {
+            ChainUnwinder z = run(3, 39 - word, 15, 1, 0, 14, 2, 0);
+            Check.steps(z, 3);
+            CHECK.is("a word of the first run", z.machine(3), 0);
+            z.begin(7, 8, 9, 10);
+            Check.steps(z, 2);
+            CHECK.is("a run begins with all other words 0", z.machine(3), 0);
+        }
     }
 
     private static void jumps() {

@@ -9,6 +9,7 @@ public final class SectionTest {
         advances();
         aLongProgram();
         aVeryLongProgram();
+        functionsKnowNothingOfEachOther();
         packAnew();
         pokes();
         CHECK.end();
@@ -121,6 +122,23 @@ public final class SectionTest {
             CHECK.is("a whole new row", x.section(406 + i), last[i]);
         }
         CHECK.is("no byte behind", x.section(416), Check.NONE);
+    }
+
+    /** Each of them ends with all registers saved and FP as the link. */
+    private static void functionsKnowNothingOfEachOther() {
+        ChainUnwinder x = new ChainUnwinder();
+        Check.put(x, 1, 0, 1, 1, 1, 2, 5, 9, 7, 1, 0, 1, 1, 1, 2, 5, 9, 16, 8);
+        x.function(0, 9);
+        x.function(9, 18);
+        x.function(18, 19);
+        CHECK.is("pack", x.pack(), 48);
+        CHECK.is("section", Check.sectionOf(x),
+                0, 20, 0, 9, 66, 14, 2, 128, 2, 66, 14, 3, 129, 3, 66, 14, 4, 130, 4, 65, 13, 1,
+                0, 20, 9, 9, 66, 14, 2, 128, 2, 66, 14, 3, 129, 3, 66, 14, 4, 130, 4, 65, 13, 1,
+                0, 2, 18, 1);
+        CHECK.is("row at last", Check.wholeRow(x, 17), 1, 4, 2, 3, 4);
+        CHECK.is("row at first", Check.wholeRow(x, 9), 0, 1, 0, 0, 0);
+        CHECK.is("row of the last function", Check.wholeRow(x, 18), 0, 1, 0, 0, 0);
     }
 
     private static void packAnew() {
