@@ -19,32 +19,6 @@ public final class RowTest {
         CHECK.end();
     }
 
-    /** A section that begins with these bytes; the rest of it is a function without places. */
-    private static ChainUnwinder section(int... bytes) {
-        ChainUnwinder x = new ChainUnwinder();
-        for (int i = 0; i < 20; i++) {
-            Check.put(x, 3, 1, 4, 1);
-        }
-        Check.put(x, 8);
-        x.function(0, 81);
-        int length = x.pack();
-        for (int i = 0; i < length; i++) {
-            x.poke(i, i < bytes.length ? bytes[i] : 0);
-        }
-        x.poke(bytes.length + 1, length - bytes.length - 2);
-        return x;
-    }
-
-    /** A section whose first function has the places 10 .. 19 and this program. */
-    private static ChainUnwinder program(int... told) {
-        int[] bytes = new int[4 + told.length];
-        bytes[1] = 2 + told.length;
-        bytes[2] = 10;
-        bytes[3] = 10;
-        System.arraycopy(told, 0, bytes, 4, told.length);
-        return section(bytes);
-    }
-
     private static void packedRows() {
         ChainUnwinder x = Check.packed(1, 0, 5, 1, 2, 3, 3, 4, 3, 2, 2, 2, 0, 8);
         CHECK.is("0", Check.wholeRow(x, 0), 0, 1, 0, 0, 0);
@@ -70,12 +44,12 @@ public final class RowTest {
         x.poke(1, 9);
         CHECK.is("malformed comes before no part", Check.row(x, 1, 5), BAD);
         CHECK.is("malformed comes before no place", Check.row(x, 2, 0), BAD);
-        ChainUnwinder y = program(1);
+        ChainUnwinder y = Poked.program(1);
         CHECK.is("a malformed program comes before no part", Check.row(y, 10, 7), BAD);
     }
 
     private static void whatHoldsWhere() {
-        ChainUnwinder x = program(14, 9, 67, 13, 1, 128, 7, 66, 12, 0, 200, 129, 255, 130, 1, 192);
+        ChainUnwinder x = Poked.program(14, 9, 67, 13, 1, 128, 7, 66, 12, 0, 200, 129, 255, 130, 1, 192);
         CHECK.is("told before any advance", Check.wholeRow(x, 10), 0, 9, 0, 0, 0);
         CHECK.is("up to the next", Check.wholeRow(x, 12), 0, 9, 0, 0, 0);
         CHECK.is("from there on", Check.wholeRow(x, 13), 1, 9, 7, 0, 0);
@@ -84,24 +58,24 @@ public final class RowTest {
         CHECK.is("up to the end", Check.wholeRow(x, 19), 0, 200, 0, 255, 1);
         CHECK.is("behind the end", Check.row(x, 20, 0), NONE);
         CHECK.is("before the beginning", Check.row(x, 9, 0), NONE);
-        CHECK.is("nothing told", Check.wholeRow(program(), 15), 0, 1, 0, 0, 0);
+        CHECK.is("nothing told", Check.wholeRow(Poked.program(), 15), 0, 1, 0, 0, 0);
     }
 
     private static void theSameToldInOtherWays() {
-        CHECK.is("2 d with a small d", Check.wholeRow(program(2, 3, 14, 4), 13), 0, 4, 0, 0, 0);
-        CHECK.is("not before it", Check.wholeRow(program(2, 3, 14, 4), 12), 0, 1, 0, 0, 0);
-        CHECK.is("2 0", Check.wholeRow(program(2, 0, 14, 4), 10), 0, 4, 0, 0, 0);
-        CHECK.is("64", Check.wholeRow(program(64, 14, 4, 64), 10), 0, 4, 0, 0, 0);
-        CHECK.is("what holds already", Check.wholeRow(program(12, 0, 1, 13, 0, 192), 10), 0, 1, 0, 0, 0);
-        CHECK.is("n 0", Check.wholeRow(program(14, 0), 10), 0, 0, 0, 0, 0);
-        CHECK.is("s 0 and s 1", Check.wholeRow(program(128, 5, 128, 0, 129, 1), 10), 0, 1, 0, 1, 0);
-        CHECK.is("nothing", Check.wholeRow(program(0, 0, 14, 3, 0), 10), 0, 3, 0, 0, 0);
-        CHECK.is("the first two advances", Check.wholeRow(program(65, 65, 14, 4), 11), 0, 1, 0, 0, 0);
-        CHECK.is("both of them", Check.wholeRow(program(65, 65, 14, 4), 12), 0, 4, 0, 0, 0);
+        CHECK.is("2 d with a small d", Check.wholeRow(Poked.program(2, 3, 14, 4), 13), 0, 4, 0, 0, 0);
+        CHECK.is("not before it", Check.wholeRow(Poked.program(2, 3, 14, 4), 12), 0, 1, 0, 0, 0);
+        CHECK.is("2 0", Check.wholeRow(Poked.program(2, 0, 14, 4), 10), 0, 4, 0, 0, 0);
+        CHECK.is("64", Check.wholeRow(Poked.program(64, 14, 4, 64), 10), 0, 4, 0, 0, 0);
+        CHECK.is("what holds already", Check.wholeRow(Poked.program(12, 0, 1, 13, 0, 192), 10), 0, 1, 0, 0, 0);
+        CHECK.is("n 0", Check.wholeRow(Poked.program(14, 0), 10), 0, 0, 0, 0, 0);
+        CHECK.is("s 0 and s 1", Check.wholeRow(Poked.program(128, 5, 128, 0, 129, 1), 10), 0, 1, 0, 1, 0);
+        CHECK.is("nothing", Check.wholeRow(Poked.program(0, 0, 14, 3, 0), 10), 0, 3, 0, 0, 0);
+        CHECK.is("the first two advances", Check.wholeRow(Poked.program(65, 65, 14, 4), 11), 0, 1, 0, 0, 0);
+        CHECK.is("both of them", Check.wholeRow(Poked.program(65, 65, 14, 4), 12), 0, 4, 0, 0, 0);
     }
 
     private static void thePile() {
-        ChainUnwinder x = program(12, 1, 5, 10, 65, 12, 0, 6, 130, 9, 10, 65, 14, 7, 10, 65, 14, 8, 10,
+        ChainUnwinder x = Poked.program(12, 1, 5, 10, 65, 12, 0, 6, 130, 9, 10, 65, 14, 7, 10, 65, 14, 8, 10,
                 65, 14, 9, 11, 65, 11, 65, 11, 65, 11);
         CHECK.is("the first one", Check.wholeRow(x, 10), 1, 5, 0, 0, 0);
         CHECK.is("the second one", Check.wholeRow(x, 11), 0, 6, 0, 0, 9);
@@ -109,49 +83,49 @@ public final class RowTest {
         CHECK.is("the third one again", Check.wholeRow(x, 15), 0, 7, 0, 0, 9);
         CHECK.is("the second one again", Check.wholeRow(x, 16), 0, 6, 0, 0, 9);
         CHECK.is("the first one again", Check.wholeRow(x, 17), 1, 5, 0, 0, 0);
-        CHECK.is("empty", Check.row(program(11), 10, 1), BAD);
-        CHECK.is("empty again", Check.row(program(10, 11, 11), 10, 1), BAD);
-        CHECK.is("four", Check.row(program(10, 10, 10, 10), 10, 1), 1);
-        CHECK.is("five", Check.row(program(10, 10, 10, 10, 10), 10, 1), BAD);
-        CHECK.is("five, one taken off", Check.row(program(10, 10, 10, 10, 11, 10), 10, 1), 1);
-        ChainUnwinder full = program(10, 10, 10, 10);
+        CHECK.is("empty", Check.row(Poked.program(11), 10, 1), BAD);
+        CHECK.is("empty again", Check.row(Poked.program(10, 11, 11), 10, 1), BAD);
+        CHECK.is("four", Check.row(Poked.program(10, 10, 10, 10), 10, 1), 1);
+        CHECK.is("five", Check.row(Poked.program(10, 10, 10, 10, 10), 10, 1), BAD);
+        CHECK.is("five, one taken off", Check.row(Poked.program(10, 10, 10, 10, 11, 10), 10, 1), 1);
+        ChainUnwinder full = Poked.program(10, 10, 10, 10);
         CHECK.is("a full pile is left", Check.row(full, 10, 1), 1);
         CHECK.is("but each reading has its own", Check.row(full, 10, 1), 1);
-        CHECK.is("full behind the place", Check.row(program(66, 10, 10, 10, 10, 10), 10, 1), BAD);
+        CHECK.is("full behind the place", Check.row(Poked.program(66, 10, 10, 10, 10, 10), 10, 1), BAD);
     }
 
     private static void unknownBytes() {
         for (int b = 0; b < 256; b++) {
             boolean known = b == 0 || b == 2 || b == 10 || b >= 12 && b <= 14 || b >= 64 && b <= 73
                     || b >= 128 && b <= 130 || b >= 192 && b <= 194;
-            int answer = Check.row(program(b, 0, 0), 10, 0);
+            int answer = Check.row(Poked.program(b, 0, 0), 10, 0);
             CHECK.is("byte " + b, answer != BAD, known);
         }
-        CHECK.is("an unknown byte behind the place", Check.row(program(65, 1), 10, 0), BAD);
+        CHECK.is("an unknown byte behind the place", Check.row(Poked.program(65, 1), 10, 0), BAD);
     }
 
     private static void linksAndMissingBytes() {
-        CHECK.is("13 2", Check.row(program(13, 2), 10, 0), BAD);
-        CHECK.is("13 255", Check.row(program(13, 255), 10, 0), BAD);
-        CHECK.is("12 2 1", Check.row(program(12, 2, 1), 10, 0), BAD);
-        CHECK.is("13 2 behind the place", Check.row(program(66, 13, 2), 10, 0), BAD);
+        CHECK.is("13 2", Check.row(Poked.program(13, 2), 10, 0), BAD);
+        CHECK.is("13 255", Check.row(Poked.program(13, 255), 10, 0), BAD);
+        CHECK.is("12 2 1", Check.row(Poked.program(12, 2, 1), 10, 0), BAD);
+        CHECK.is("13 2 behind the place", Check.row(Poked.program(66, 13, 2), 10, 0), BAD);
         int[] begun = {2, 12, 13, 14, 128, 129, 130};
         for (int b : begun) {
-            CHECK.is("nothing behind " + b, Check.row(program(b), 10, 0), BAD);
-            CHECK.is("nothing behind " + b + " at last", Check.row(program(0, 64, b), 10, 0), BAD);
+            CHECK.is("nothing behind " + b, Check.row(Poked.program(b), 10, 0), BAD);
+            CHECK.is("nothing behind " + b + " at last", Check.row(Poked.program(0, 64, b), 10, 0), BAD);
         }
-        CHECK.is("one byte behind 12", Check.row(program(12, 1), 10, 0), BAD);
-        CHECK.is("two bytes behind 12", Check.row(program(12, 1, 1), 10, 0), 1);
+        CHECK.is("one byte behind 12", Check.row(Poked.program(12, 1), 10, 0), BAD);
+        CHECK.is("two bytes behind 12", Check.row(Poked.program(12, 1, 1), 10, 0), 1);
     }
 
     private static void advances() {
-        CHECK.is("to the last place", Check.row(program(73, 14, 3), 19, 1), 3);
-        CHECK.is("to the end", Check.row(program(74, 14, 3), 10, 1), BAD);
-        CHECK.is("to the last place by 2", Check.row(program(2, 9, 14, 3), 19, 1), 3);
-        CHECK.is("to the end by 2", Check.row(program(2, 10), 10, 1), BAD);
-        CHECK.is("to the end in parts", Check.row(program(69, 69), 10, 1), BAD);
-        CHECK.is("far", Check.row(program(2, 255), 10, 1), BAD);
-        ChainUnwinder high = section(0, 9, 200, 255, 2, 254, 14, 3, 0, 0, 0);
+        CHECK.is("to the last place", Check.row(Poked.program(73, 14, 3), 19, 1), 3);
+        CHECK.is("to the end", Check.row(Poked.program(74, 14, 3), 10, 1), BAD);
+        CHECK.is("to the last place by 2", Check.row(Poked.program(2, 9, 14, 3), 19, 1), 3);
+        CHECK.is("to the end by 2", Check.row(Poked.program(2, 10), 10, 1), BAD);
+        CHECK.is("to the end in parts", Check.row(Poked.program(69, 69), 10, 1), BAD);
+        CHECK.is("far", Check.row(Poked.program(2, 255), 10, 1), BAD);
+        ChainUnwinder high = Poked.section(0, 9, 200, 255, 2, 254, 14, 3, 0, 0, 0);
         CHECK.is("places above 255", Check.row(high, 454, 1), 3);
         CHECK.is("places above 255", Check.row(high, 453, 1), 1);
         CHECK.is("behind them", Check.row(high, 455, 1), NONE);
@@ -159,9 +133,9 @@ public final class RowTest {
     }
 
     private static void countsOfBytes() {
-        CHECK.is("none", Check.row(section(0, 0), 10, 0), BAD);
-        CHECK.is("one", Check.row(section(0, 1, 0), 10, 0), BAD);
-        CHECK.is("two", Check.row(section(0, 2, 10, 1), 10, 1), 1);
+        CHECK.is("none", Check.row(Poked.section(0, 0), 10, 0), BAD);
+        CHECK.is("one", Check.row(Poked.section(0, 1, 0), 10, 0), BAD);
+        CHECK.is("two", Check.row(Poked.section(0, 2, 10, 1), 10, 1), 1);
         ChainUnwinder x = Check.packed(0, 3, 1, 4, 1, 8);
         CHECK.is("packed", Check.sectionOf(x), 0, 8, 0, 6, 67, 14, 2, 66, 14, 1);
         x.poke(1, 9);
@@ -200,17 +174,17 @@ public final class RowTest {
     }
 
     private static void whichFunctionIsRead() {
-        ChainUnwinder x = section(0, 3, 0, 10, 1, 0, 4, 10, 5, 14, 7, 0, 4, 12, 9, 14, 8, 0, 2, 30, 0);
+        ChainUnwinder x = Poked.section(0, 3, 0, 10, 1, 0, 4, 10, 5, 14, 7, 0, 4, 12, 9, 14, 8, 0, 2, 30, 0);
         CHECK.is("a malformed program", Check.row(x, 9, 1), BAD);
         CHECK.is("is not read for others", Check.row(x, 10, 1), 7);
         CHECK.is("the first one that has it", Check.row(x, 12, 1), 7);
         CHECK.is("the second one", Check.row(x, 15, 1), 8);
         CHECK.is("no place in a function without length", Check.row(x, 30, 1), NONE);
         CHECK.is("no function", Check.row(x, 21, 1), NONE);
-        ChainUnwinder y = section(0, 4, 0, 10, 14, 3, 0, 1, 20, 5);
+        ChainUnwinder y = Poked.section(0, 4, 0, 10, 14, 3, 0, 1, 20, 5);
         CHECK.is("a malformed one behind it", Check.row(y, 5, 1), 3);
         CHECK.is("when none has the place", Check.row(y, 50, 1), BAD);
-        ChainUnwinder z = section(0, 1, 0, 4, 0, 10, 14, 3);
+        ChainUnwinder z = Poked.section(0, 1, 0, 4, 0, 10, 14, 3);
         CHECK.is("a malformed one before it", Check.row(z, 5, 1), BAD);
     }
 }
