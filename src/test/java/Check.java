@@ -45,6 +45,15 @@ final class Check {
         }
     }
 
+    /** What is looked at, and the bytes that it is looked at with. */
+    static String text(String what, int... bytes) {
+        StringBuilder text = new StringBuilder(what);
+        for (int b : bytes) {
+            text.append(' ').append(b);
+        }
+        return text.toString();
+    }
+
     /** Appends these bytes to the code. */
     static void put(ChainUnwinder x, int... code) {
         for (int b : code) {

@@ -44,20 +44,12 @@ public final class EdgeFindTest {
     }
 
     private static void due(int answer, int... code) {
-        StringBuilder text = new StringBuilder("pack of");
-        for (int b : code) {
-            text.append(' ').append(b);
-        }
-        CHECK.is(text.toString(), Check.one(code).pack(), answer);
+        CHECK.is(Check.text("pack of", code), Check.one(code).pack(), answer);
     }
 
     /** There is no fault. */
     private static void fine(int... code) {
-        StringBuilder text = new StringBuilder("no fault in");
-        for (int b : code) {
-            text.append(' ').append(b);
-        }
-        CHECK.is(text.toString(), Check.one(code).pack() > 0, true);
+        CHECK.is(Check.text("no fault in", code), Check.one(code).pack() > 0, true);
     }
 
     private static ChainUnwinder of(int[] code, int... bounds) {

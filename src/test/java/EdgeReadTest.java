@@ -58,24 +58,22 @@ public final class EdgeReadTest {
 
     /** The program, for the places 10 .. 19, is malformed. */
     private static void bad(int... program) {
-        StringBuilder text = new StringBuilder("malformed:");
-        for (int b : program) {
-            text.append(' ').append(b);
-        }
-        CHECK.is(text.toString(), row(Poked.program(program), 10, 0), BAD);
+        CHECK.is(Check.text("malformed:", program), row(Poked.program(program), 10, 0), BAD);
     }
 
     private static void fine(int... program) {
-        StringBuilder text = new StringBuilder("not malformed:");
-        for (int b : program) {
-            text.append(' ').append(b);
-        }
-        CHECK.is(text.toString(), row(Poked.program(program), 10, 0) != BAD, true);
+        CHECK.is(Check.text("not malformed:", program), row(Poked.program(program), 10, 0) != BAD, true);
     }
 
     private static void anEmptyProgram() {
         due(told(), 10, 0, 1, 0, 0, 0);
         due(told(), 19, 0, 1, 0, 0, 0);
+        // What another program told before is not left.
+        ChainUnwinder x = Poked.section(0, 11, 0, 10, 12, 1, 9, 128, 5, 129, 6, 130, 7, 0, 2, 10, 10);
+        for (int i = 0; i < 2; i++) {
+            CHECK.is("a program", Check.wholeRow(x, 0), 1, 9, 5, 6, 7);
+            CHECK.is("an empty one", Check.wholeRow(x, 10), 0, 1, 0, 0, 0);
+        }
     }
 
     private static void holdsFromWhereItHasAdvancedTo() {

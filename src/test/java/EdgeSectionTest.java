@@ -18,6 +18,9 @@ public final class EdgeSectionTest {
         advancesUpTo63();
         advancesFromTheLatestTold();
         linkAndNumber();
+        byFpOnlyWhileItIsKnown();
+        eachFunctionBeginsWithTheFirstRow();
+        nothingIsLeftOfAnEarlierPack();
         registersInTheirOrder();
         numbersUpTo30();
         aFaultLeavesTheSection();
@@ -178,7 +181,54 @@ public final class EdgeSectionTest {
         due(code(3, 2, 9, 2), 0, 5, 0, 4, 66, 14, 3);
         due(code(1, 0, 5, 3, 1, 5, 9, 6), 0, 13, 0, 8, 66, 14, 2, 128, 2, 65, 13, 1, 67, 14, 3);
         // Neither: a register alone.
-        due(code(3, 1, 14, 2, 0, 9, 5), 0, 8, 0, 7, 66, 14, 2, 67, 130, 2);
+        for (int r = 0; r < 3; r++) {
+            due(code(3, 1, 14, r, 0, 9, 5), 0, 8, 0, 7, 66, 14, 2, 67, 128 + r, 2);
+            due(code(3, 1, 14, r, 0, 15, r, 0, 9, 8), 0, 10, 0, 10, 66, 14, 2, 67, 128 + r, 2, 67, 192 + r);
+        }
+    }
+
+    private static void byFpOnlyWhileItIsKnown() {
+        int[] known = {66, 14, 2, 128, 2, 65, 13, 1};
+        // FP is spoilt by a number, or given another word: then the row is by SP.
+        due(code(1, 0, 5, 11, 0, 7, 9, 6), behind(known, 8, 67, 13, 0));
+        due(code(1, 0, 5, 3, 1, 15, 0, 0, 9, 8), behind(known, 10, 69, 12, 0, 3));
+        // Another register that is spoilt does not matter.
+        due(code(1, 0, 5, 1, 1, 11, 1, 7, 9, 8), behind(known, 10, 66, 129, 3));
+    }
+
+    /** The section of a function of this length from 0 on, whose program begins with these bytes. */
+    private static int[] behind(int[] known, int length, int... more) {
+        int[] all = new int[4 + known.length + more.length];
+        all[1] = 2 + known.length + more.length;
+        all[3] = length;
+        System.arraycopy(known, 0, all, 4, known.length);
+        System.arraycopy(more, 0, all, 4 + known.length, more.length);
+        return all;
+    }
+
+    private static void eachFunctionBeginsWithTheFirstRow() {
+        // The first one ends with all registers saved and FP as the link.
+        ChainUnwinder x = new ChainUnwinder();
+        Check.put(x, 1, 0, 1, 1, 1, 2, 5, 9, 7, 8, 3, 1, 9, 12);
+        x.function(0, 9);
+        x.function(9, 10);
+        x.function(10, 14);
+        CHECK.is("pack", x.pack(), 33);
+        List<Integer> bytes = Check.sectionOf(x);
+        CHECK.is("the others", bytes.subList(22, 33), 0, 2, 9, 1, 0, 5, 10, 4, 66, 14, 2);
+    }
+
+    private static void nothingIsLeftOfAnEarlierPack() {
+        ChainUnwinder x = Check.packed(1, 0, 1, 1, 1, 2, 5, 9, 7);
+        int[][] codes = {{8, 3, 1, 8}, {0, 8}, {9, 3, 16, 8}, {0}, {9, 1, 8}};
+        int[] answers = {4, 4, -300, -201, -300};
+        for (int i = 0; i < codes.length; i++) {
+            x.clear();
+            Check.put(x, codes[i]);
+            x.function(0, codes[i].length);
+            CHECK.is("pack anew", x.pack(), answers[i]);
+            CHECK.is("and again", x.pack(), answers[i]);
+        }
     }
 
     private static void registersInTheirOrder() {

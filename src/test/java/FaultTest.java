@@ -20,11 +20,7 @@ public final class FaultTest {
     }
 
     private static void due(int answer, int... code) {
-        StringBuilder text = new StringBuilder("pack of");
-        for (int b : code) {
-            text.append(' ').append(b);
-        }
-        CHECK.is(text.toString(), Check.one(code).pack(), answer);
+        CHECK.is(Check.text("pack of", code), Check.one(code).pack(), answer);
     }
 
     private static void notWhole() {
